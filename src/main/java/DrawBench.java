@@ -21,9 +21,6 @@ public final class DrawBench {
     private static final int MOST_SETS = 1024;
     private static final int HEAPS = 4;
     private static final int FACTS = 4;
-    /** What WORTH, SIZE, HEAP and SHARE may be, in the order in which a ROW tells them. */
-    private static final int[] LOWEST_FACT = {-100, 1, 0, 0};
-    private static final int[] HIGHEST_FACT = {100, 50, 3, 100};
 
     private static final int ALIKE = 0;
     private static final int BY_HEAPS = 1;
@@ -419,6 +416,10 @@ public final class DrawBench {
 
     /** The ROWS, all in one array that is made once. */
     private static final class Slots {
+        /** What WORTH, SIZE, HEAP and SHARE may be, in the order in which a ROW tells them. */
+        private static final int[] LOWEST_FACT = {-100, 1, 0, 0};
+        private static final int[] HIGHEST_FACT = {100, 50, 3, 100};
+
         final long[] numbers = new long[SLOTS * LONGEST_ROW];
         final int[] width = new int[SLOTS];
         /** NONE where a SLOT has nothing, for a ROW of 0 numbers is a ROW. */

@@ -39,6 +39,12 @@ public final class SlotsTest {
         bench.mean();
         CHECK.result("mean", bench, "0/1");
         CHECK.due("STEPS of SIZE 1", bench.draw(2, 1), 0);
+        bench.set(1);
+        CHECK.result("set by STEPS", bench, "1/1");
+        CHECK.due("drawn of HEAP 0", bench.drawn(0, 1), 0);
+        CHECK.due("HEAPS", bench.draw(1, 0), 0);
+        bench.chance(0);
+        CHECK.result("chance by HEAPS", bench, "1/1");
         CHECK.due("OWN", bench.draw(3, 0), 0);
         CHECK.due("sets of SHARE 0", bench.sets(), 1);
         bench.chance(0);
@@ -81,6 +87,23 @@ public final class SlotsTest {
         CHECK.due("no names", bench.crowd(2), -4);
         bench.write(2, 0, 1);
         CHECK.due("a size of 0", bench.crowd(2), -4);
+        bench.row(2, 0, 5);
+        bench.write(2, 2, 7);
+        CHECK.due("no names, a size", bench.crowd(2), -4);
+        bench.write(2, 0, 1);
+        bench.write(2, 1, 9);
+        bench.write(2, 3, 3);
+        bench.write(2, 4, 100);
+        bench.row(2, 0, 5);
+        bench.write(2, 0, 1);
+        bench.write(2, 2, 7);
+        CHECK.due("WORTH, HEAP and SHARE of 0", bench.crowd(2), 1);
+        bench.mean();
+        CHECK.result("WORTH", bench, "0/1");
+        CHECK.due("HEAP", bench.count(10), 1);
+        bench.draw(3, 0);
+        bench.chance(0);
+        CHECK.result("SHARE", bench, "0/1");
     }
 
     private static void refusedRowKeepsTheOldOne() {
