@@ -36,6 +36,14 @@ final class Ratio implements Comparable<Ratio> {
         return new Ratio(top.multiply(other.bottom), bottom.multiply(other.top));
     }
 
+    BigInteger top() {
+        return top;
+    }
+
+    BigInteger bottom() {
+        return bottom;
+    }
+
     int signum() {
         return top.signum();
     }

@@ -1,298 +1,371 @@
-/** Promises 1 to 5: a new object, row, tear, write, crowd. */
+/** Promises 1 to 4, and what "Terms" says of SLOTS, ROWS and WIDTHS. */
 public final class SlotsTest {
+    private static final int LAST_SLOT = 7;
+    private static final int LONGEST = 60;
     private static final Check CHECK = new Check();
 
     public static void main(String[] args) {
-        newObject();
-        row();
-        tear();
-        write();
-        widths();
-        crowdRefused();
-        crowdLimits();
-        crowdReplaces();
-        crowdKeepsWhatItRefuses();
+        newCrowd();
+        newDraw();
+        newSlots();
+        newResult();
+        rowOfLength();
+        rowIsAllZero();
+        rowInPlaceOfAnother();
+        rowRefused();
+        tornRow();
+        tearRefused();
+        writeEachNumber();
+        writeTouchesNoOther();
+        writeCutsToWidth();
+        writeAtTheEndsOfWidths();
+        writeRefused();
         CHECK.end("SlotsTest");
     }
 
-    private static void newObject() {
+    private static void newCrowd() {
+        CHECK.promise(1, "A CROWD of one NAME");
         DrawBench bench = new DrawBench();
-        CHECK.result("a new object", bench, "0/1");
+        CHECK.due("count(0)", bench.count(0), 1);
+        CHECK.due("chance(1)", bench.chance(1), false);
+        CHECK.due("set(2)", bench.set(2), false);
+        CHECK.promise(1, "of WORTH 0, SIZE 1, HEAP 0, SHARE 0");
+        bench.mean();
+        CHECK.result("mean, by WORTH", bench, "0/1");
+        bench.sum(1);
+        CHECK.result("sum, by WORTH", bench, "0/1");
+        CHECK.due("STEPS, by SIZE", bench.draw(2, 1), 0);
+        bench.set(1);
+        CHECK.result("set by STEPS", bench, "1/1");
+        CHECK.due("WEIGHED, by SIZE", bench.draw(4, 1), 0);
+        bench.set(1);
+        CHECK.result("set by WEIGHED", bench, "1/1");
+        int[] namesOfHeap = {1, 0, 0, 0};
+        for (int heap = 0; heap < 4; heap++) {
+            CHECK.due("count of HEAP " + heap, bench.count(10 + heap), namesOfHeap[heap]);
+        }
+        bench.draw(3, 0);
+        bench.chance(0);
+        CHECK.result("chance, by SHARE", bench, "0/1");
+        CHECK.due("bands(1)", bench.bands(1), 0);
+        CHECK.due("share(1, 0)", bench.share(1, 0), 1);
+    }
+
+    private static void newDraw() {
+        CHECK.promise(1, "the DRAW is ALIKE, 1");
+        DrawBench bench = new DrawBench();
+        CHECK.due("count(1)", bench.count(1), 0);
+        CHECK.due("count(2)", bench.count(2), 1);
+        CHECK.due("sets()", bench.sets(), 1);
+        bench.chance(0);
+        CHECK.result("chance(0)", bench, "1/1");
+        bench.set(0);
+        CHECK.result("set(0)", bench, "0/1");
+        CHECK.terms("each HEAP has a number of DRAWN (0 at first)");
+        for (int heap = 0; heap < 4; heap++) {
+            CHECK.due("DRAWN of HEAP " + heap, bench.count(20 + heap), 0);
+        }
+        bench.draw(1, 1);
+        CHECK.due("all DRAWN", bench.count(2), 0);
+        bench.set(0);
+        CHECK.result("set(0) by HEAPS", bench, "1/1");
+    }
+
+    private static void newSlots() {
+        CHECK.promise(1, "SLOTS are empty");
+        DrawBench bench = new DrawBench();
+        CHECK.due("count(3)", bench.count(3), 0);
+        for (int slot = 0; slot <= LAST_SLOT; slot++) {
+            CHECK.due("tear " + slot, bench.tear(slot), false);
+            CHECK.due("write " + slot, bench.write(slot, 0, 0), -5);
+            CHECK.due("crowd " + slot, bench.crowd(slot), -5);
+        }
+    }
+
+    private static void newResult() {
+        CHECK.promise(1, "the RESULT is 0 / 1");
+        DrawBench bench = new DrawBench();
         CHECK.due("look(0)", bench.look(0), 0);
         CHECK.due("look(1)", bench.look(1), 1);
         CHECK.due("look(2)", bench.look(2), 1);
-        CHECK.due("count(0)", bench.count(0), 1);
-        CHECK.due("count(1)", bench.count(1), 0);
-        CHECK.due("count(2)", bench.count(2), 1);
-        CHECK.due("count(3)", bench.count(3), 0);
-        for (int heap = 0; heap < 4; heap++) {
-            CHECK.due("count of a heap", bench.count(10 + heap), heap == 0 ? 1 : 0);
-            CHECK.due("drawn of a heap", bench.count(20 + heap), 0);
-        }
-        for (int slot = 0; slot < 8; slot++) {
-            CHECK.due("tear", bench.tear(slot), false);
-            CHECK.due("write", bench.write(slot, 0, 0), -5);
-            CHECK.due("crowd", bench.crowd(slot), -5);
-        }
-        bench.chance(0);
-        CHECK.result("chance", bench, "1/1");
-        bench.mean();
-        CHECK.result("mean", bench, "0/1");
-        CHECK.due("STEPS of SIZE 1", bench.draw(2, 1), 0);
-        bench.set(1);
-        CHECK.result("set by STEPS", bench, "1/1");
-        CHECK.due("drawn of HEAP 0", bench.drawn(0, 1), 0);
-        CHECK.due("HEAPS", bench.draw(1, 0), 0);
-        bench.chance(0);
-        CHECK.result("chance by HEAPS", bench, "1/1");
-        CHECK.due("OWN", bench.draw(3, 0), 0);
-        CHECK.due("sets of SHARE 0", bench.sets(), 1);
-        bench.chance(0);
-        CHECK.result("chance of SHARE 0", bench, "0/1");
-        CHECK.due("bands", bench.bands(1), 0);
+        CHECK.due("part(false, 0)", bench.part(false, 0), 0);
+        CHECK.due("part(true, 0)", bench.part(true, 0), 1);
+        CHECK.due("part(true, 1)", bench.part(true, 1), 0);
     }
 
-    private static void row() {
+    private static void rowOfLength() {
+        CHECK.promise(2, "A SLOT has a ROW of n numbers of that WIDTH");
         DrawBench bench = new DrawBench();
-        for (int slot = 0; slot < 8; slot++) {
-            CHECK.due("row", bench.row(slot, slot % 4, slot * 8), 0);
-            CHECK.due("slots", bench.count(3), slot + 1);
-            CHECK.due("beyond the row", bench.write(slot, slot * 8, 1), -6);
+        for (int slot = 0; slot <= LAST_SLOT; slot++) {
+            int n = slot == LAST_SLOT ? LONGEST : slot * 8;
+            CHECK.due("row " + slot, bench.row(slot, slot % 4, n), 0);
+            CHECK.due("SLOTS with a ROW", bench.count(3), slot + 1);
+            if (n > 0) {
+                CHECK.due("the first of " + n, bench.write(slot, 0, 1), 0);
+                CHECK.due("the last of " + n, bench.write(slot, n - 1, 1), 0);
+            }
+            CHECK.due("beyond the last of " + n, bench.write(slot, n, 1), -6);
         }
-        CHECK.due("row(7, 3, 60)", bench.row(7, 3, 60), 0);
-        CHECK.due("the last", bench.write(7, 59, 1), 0);
-        CHECK.due("beyond", bench.write(7, 60, 1), -6);
-        CHECK.due("in place of another", bench.count(3), 8);
-        CHECK.due("row(-1, 0, 1)", bench.row(-1, 0, 1), -2);
-        CHECK.due("row(8, 0, 1)", bench.row(8, 0, 1), -2);
-        CHECK.due("row(0, -1, 1)", bench.row(0, -1, 1), -2);
-        CHECK.due("row(0, 4, 1)", bench.row(0, 4, 1), -2);
-        CHECK.due("row(0, 0, 61)", bench.row(0, 0, 61), -2);
-        CHECK.due("row(0, 0, max)", bench.row(0, 0, Integer.MAX_VALUE), -2);
-        CHECK.due("row(0, 0, -1)", bench.row(0, 0, -1), -3);
-        CHECK.due("row(0, 0, min)", bench.row(0, 0, Integer.MIN_VALUE), -3);
-        CHECK.due("row(8, 0, -1)", bench.row(8, 0, -1), -2);
-        CHECK.due("row(0, 4, -1)", bench.row(0, 4, -1), -2);
-        rowIsAllZero();
-        refusedRowKeepsTheOldOne();
+        CHECK.terms("SLOTS 0 to 7 have ROWS of numbers [..] at most 60, or nothing.");
+        CHECK.due("a ROW of 0 numbers is a ROW", bench.row(0, 3, 0), 0);
+        CHECK.due("count(3)", bench.count(3), 8);
+        CHECK.due("crowd(0)", bench.crowd(0), -6);
+        CHECK.due("tear(0)", bench.tear(0), true);
+        CHECK.due("count(3) then", bench.count(3), 7);
+        CHECK.due("crowd(0) of nothing", bench.crowd(0), -5);
     }
 
+    /** A CROWD reads the first 41 numbers; with SIZES and how many NAMES written anew the rest is told. */
     private static void rowIsAllZero() {
-        DrawBench bench = new DrawBench();
-        bench.row(2, 0, 5);
-        bench.write(2, 0, 1);
-        bench.write(2, 2, 7);
-        CHECK.due("a crowd of one", bench.crowd(2), 1);
-        CHECK.due("anew", bench.row(2, 0, 5), 0);
-        CHECK.due("no names", bench.crowd(2), -4);
-        bench.write(2, 0, 1);
-        CHECK.due("a size of 0", bench.crowd(2), -4);
-        bench.row(2, 0, 5);
-        bench.write(2, 2, 7);
-        CHECK.due("no names, a size", bench.crowd(2), -4);
-        bench.write(2, 0, 1);
-        bench.write(2, 1, 9);
-        bench.write(2, 3, 3);
-        bench.write(2, 4, 100);
-        bench.row(2, 0, 5);
-        bench.write(2, 0, 1);
-        bench.write(2, 2, 7);
-        CHECK.due("WORTH, HEAP and SHARE of 0", bench.crowd(2), 1);
-        bench.mean();
-        CHECK.result("WORTH", bench, "0/1");
-        CHECK.due("HEAP", bench.count(10), 1);
-        bench.draw(3, 0);
-        bench.chance(0);
-        CHECK.result("SHARE", bench, "0/1");
-    }
-
-    private static void refusedRowKeepsTheOldOne() {
-        DrawBench bench = new DrawBench();
-        bench.row(2, 0, 5);
-        bench.write(2, 0, 1);
-        bench.write(2, 2, 7);
-        bench.row(2, 0, 61);
-        bench.row(2, 4, 5);
-        bench.row(2, 0, -1);
-        CHECK.due("the row is still there", bench.crowd(2), 1);
-    }
-
-    private static void tear() {
-        DrawBench bench = new DrawBench();
-        bench.row(0, 0, 0);
-        bench.row(7, 3, 60);
-        CHECK.due("tear(-1)", bench.tear(-1), false);
-        CHECK.due("tear(8)", bench.tear(8), false);
-        CHECK.due("tear(min)", bench.tear(Integer.MIN_VALUE), false);
-        CHECK.due("tear(1)", bench.tear(1), false);
-        CHECK.due("both stand", bench.count(3), 2);
-        CHECK.due("tear(0), a row of none", bench.tear(0), true);
-        CHECK.due("tear(0) again", bench.tear(0), false);
-        CHECK.due("one stands", bench.count(3), 1);
-        CHECK.due("tear(7)", bench.tear(7), true);
-        CHECK.due("write(7)", bench.write(7, 0, 0), -5);
-        CHECK.due("crowd(7)", bench.crowd(7), -5);
-        CHECK.due("none stands", bench.count(3), 0);
-    }
-
-    private static void write() {
-        DrawBench bench = new DrawBench();
-        bench.row(3, 0, 2);
-        CHECK.due("write(-1)", bench.write(-1, 0, 0), -2);
-        CHECK.due("write(8)", bench.write(8, -1, 0), -2);
-        CHECK.due("write(max)", bench.write(Integer.MAX_VALUE, 0, 0), -2);
-        CHECK.due("write to nothing", bench.write(4, -1, 0), -5);
-        CHECK.due("write(3, -1)", bench.write(3, -1, 0), -6);
-        CHECK.due("write(3, 2)", bench.write(3, 2, 0), -6);
-        CHECK.due("write(3, min)", bench.write(3, Integer.MIN_VALUE, 0), -6);
-        CHECK.due("write(3, max)", bench.write(3, Integer.MAX_VALUE, 0), -6);
-        CHECK.due("write(3, 1)", bench.write(3, 1, Long.MIN_VALUE), 0);
-        bench.row(3, 0, 0);
-        CHECK.due("write to a row of none", bench.write(3, 0, 0), -6);
-    }
-
-    /** What a number becomes is seen by the WORTH that a CROWD takes from it. */
-    private static void widths() {
-        long[] range = {1L << 8, 1L << 16, 1L << 32};
+        CHECK.promise(2, "all 0 (in place of another one)");
         for (int width = 0; width < 4; width++) {
-            worthOf(width, 100, "100/1");
-            worthOf(width, -100, "-100/1");
-            if (width < 3) {
-                worthOf(width, range[width] + 5, "5/1");
-                worthOf(width, range[width] - 7, "-7/1");
-                worthOf(width, -range[width] + 9, "9/1");
-                worthOf(width, 3 * range[width], "0/1");
-                worthOf(width, Long.MIN_VALUE, "0/1");
-                worthOf(width, Long.MAX_VALUE, "-1/1");
-                worthOf(width, range[width] / 2 - 1, null);
-                worthOf(width, -range[width] / 2, null);
-                worthOf(width, range[width] / 2, null);
-            } else {
-                worthOf(width, (1L << 32) + 5, null);
-                worthOf(width, Long.MAX_VALUE, null);
-                worthOf(width, Long.MIN_VALUE, null);
+            DrawBench bench = new DrawBench();
+            Check.lay(bench, 2, 3, Check.rowOf(Check.alike(10, 9, 7, 3, 100)));
+            bench.row(2, width, LONGEST);
+            CHECK.due("how many NAMES", bench.crowd(2), -4);
+            bench.write(2, 0, 10);
+            CHECK.due("a SIZE", bench.crowd(2), -4);
+            for (int i = 0; i < 10; i++) {
+                bench.write(2, 2 + 4 * i, 1);
+            }
+            CHECK.due("crowd", bench.crowd(2), 10);
+            CHECK.due("NAMES of HEAP 0", bench.count(10), 10);
+            bench.draw(0, 10);
+            for (int i = 0; i < 10; i++) {
+                bench.sum(1 << i);
+                CHECK.result("WORTH " + i, bench, "0/1");
+            }
+            bench.draw(3, 0);
+            bench.set(0);
+            CHECK.result("all SHARES", bench, "1/1");
+        }
+        DrawBench bench = new DrawBench();
+        Check.lay(bench, 2, 0, 1, 9, 7, 3, 100);
+        bench.row(2, 0, 5);
+        bench.write(2, 2, 7);
+        CHECK.due("how many NAMES, with a SIZE", bench.crowd(2), -4);
+        Check.lay(bench, 2, 0, 1, 9, 7, 3, 100);
+        bench.row(2, 0, 2);
+        bench.row(2, 0, 5);
+        Check.fill(bench, 2, 1, 9);
+        CHECK.due("a SIZE that a shorter ROW has cut off", bench.crowd(2), -4);
+        Check.lay(bench, 2, 0, 1, 9, 7, 3, 100);
+        bench.tear(2);
+        bench.row(2, 0, 5);
+        Check.fill(bench, 2, 1, 9);
+        CHECK.due("a SIZE that was torn", bench.crowd(2), -4);
+    }
+
+    private static void rowInPlaceOfAnother() {
+        CHECK.promise(2, "(in place of another one): 0");
+        DrawBench bench = new DrawBench();
+        bench.row(1, 0, 9);
+        CHECK.due("longer", bench.row(1, 0, LONGEST), 0);
+        CHECK.due("its last", bench.write(1, 59, 0), 0);
+        CHECK.due("shorter", bench.row(1, 0, 5), 0);
+        CHECK.due("beyond it", bench.write(1, 5, 0), -6);
+        CHECK.due("wider", bench.row(1, 3, 5), 0);
+        Check.fill(bench, 1, 1, 256 + 5, 1);
+        CHECK.due("nothing is cut off", bench.crowd(1), -4);
+        CHECK.due("narrower", bench.row(1, 0, 5), 0);
+        Check.fill(bench, 1, 1, 256 + 5, 1);
+        CHECK.due("cut off", bench.crowd(1), 1);
+        CHECK.due("one ROW", bench.count(3), 1);
+        CHECK.due("of none", bench.row(1, 0, 0), 0);
+        CHECK.due("still one ROW", bench.count(3), 1);
+    }
+
+    private static void rowRefused() {
+        CHECK.promise(2, "-2: there is no such SLOT");
+        DrawBench bench = new DrawBench();
+        for (int slot : Check.outside(0, LAST_SLOT)) {
+            CHECK.due("row of SLOT " + slot, bench.row(slot, 0, 1), -2);
+        }
+        CHECK.due("SLOT 0", bench.row(0, 0, 1), 0);
+        CHECK.due("SLOT 7", bench.row(LAST_SLOT, 0, 1), 0);
+        CHECK.promise(2, "-2: there is no such [..] WIDTH");
+        for (int width : Check.outside(0, 3)) {
+            CHECK.due("row of WIDTH " + width, bench.row(0, width, 1), -2);
+        }
+        CHECK.due("WIDTH 0", bench.row(0, 0, 1), 0);
+        CHECK.due("WIDTH 3", bench.row(0, 3, 1), 0);
+        CHECK.promise(2, "-2: [..] or n is above 60");
+        CHECK.due("60 numbers", bench.row(0, 3, LONGEST), 0);
+        CHECK.due("61 numbers", bench.row(0, 3, LONGEST + 1), -2);
+        CHECK.due("most numbers", bench.row(0, 3, Integer.MAX_VALUE), -2);
+        CHECK.promise(2, "-3: n is below 0");
+        CHECK.due("0 numbers", bench.row(0, 3, 0), 0);
+        CHECK.due("-1 numbers", bench.row(0, 3, -1), -3);
+        CHECK.due("fewest numbers", bench.row(0, 3, Integer.MIN_VALUE), -3);
+        CHECK.due("count(3)", bench.count(3), 2);
+    }
+
+    private static void tornRow() {
+        CHECK.promise(3, "The SLOT has nothing: true");
+        DrawBench bench = new DrawBench();
+        for (int slot = 0; slot <= LAST_SLOT; slot++) {
+            Check.lay(bench, slot, 3, 1, 9, 7, 3, 100);
+        }
+        for (int slot = 0; slot <= LAST_SLOT; slot++) {
+            CHECK.due("crowd " + slot + " ahead of it", bench.crowd(slot), 1);
+            CHECK.due("tear " + slot, bench.tear(slot), true);
+            CHECK.due("count(3)", bench.count(3), LAST_SLOT - slot);
+            CHECK.due("write " + slot, bench.write(slot, 0, 1), -5);
+            CHECK.due("crowd " + slot, bench.crowd(slot), -5);
+        }
+        bench.row(0, 0, 0);
+        CHECK.due("tear of a ROW of none", bench.tear(0), true);
+        CHECK.due("row again", bench.row(0, 0, 1), 0);
+        CHECK.due("tear again", bench.tear(0), true);
+    }
+
+    private static void tearRefused() {
+        CHECK.promise(3, "false, if it had nothing");
+        DrawBench bench = new DrawBench();
+        bench.row(1, 0, 1);
+        CHECK.due("tear(0)", bench.tear(0), false);
+        CHECK.due("tear(2)", bench.tear(2), false);
+        CHECK.due("tear(1)", bench.tear(1), true);
+        CHECK.due("tear(1) again", bench.tear(1), false);
+        CHECK.promise(3, "false, [..] or there is none such");
+        bench.row(0, 0, 1);
+        bench.row(LAST_SLOT, 0, 1);
+        for (int slot : Check.outside(0, LAST_SLOT)) {
+            CHECK.due("tear " + slot, bench.tear(slot), false);
+        }
+        CHECK.due("count(3)", bench.count(3), 2);
+    }
+
+    /** Each number is told apart from all others by the CROWD. */
+    private static void writeEachNumber() {
+        CHECK.promise(4, "Number i of the SLOT's ROW is v");
+        int[] facts = new int[40];
+        for (int i = 0; i < 10; i++) {
+            facts[4 * i] = 7 * i - 30;
+            facts[4 * i + 1] = 1 + i;
+            facts[4 * i + 2] = i % 4;
+            facts[4 * i + 3] = 10 * i + 5;
+        }
+        int[] namesOfHeap = {3, 3, 2, 2};
+        for (int width = 0; width < 4; width++) {
+            DrawBench bench = new DrawBench();
+            Check.lay(bench, LAST_SLOT, width, Check.rowOf(facts));
+            CHECK.due("crowd", bench.crowd(LAST_SLOT), 10);
+            for (int i = 0; i < 10; i++) {
+                bench.draw(0, 10);
+                bench.sum(1 << i);
+                CHECK.result("WORTH " + i, bench, facts[4 * i] + "/1");
+                bench.draw(4, 1);
+                bench.chance(i);
+                CHECK.result("SIZE " + i, bench, Ratio.of(1 + i, 55));
+                bench.draw(3, 0);
+                bench.chance(i);
+                CHECK.result("SHARE " + i, bench, Ratio.of(10 * i + 5, 100));
+            }
+            for (int heap = 0; heap < 4; heap++) {
+                CHECK.due("HEAP " + heap, bench.count(10 + heap), namesOfHeap[heap]);
             }
         }
     }
 
-    private static void worthOf(int width, long v, String want) {
+    private static void writeTouchesNoOther() {
+        CHECK.promise(4, "Number i of the SLOT's ROW is v [..]: 0");
         DrawBench bench = new DrawBench();
-        bench.row(5, width, 5);
-        bench.write(5, 0, 1);
-        bench.write(5, 2, 1);
-        bench.write(5, 1, v);
-        CHECK.due("crowd by width " + width + " of " + v, bench.crowd(5), want == null ? -4 : 1);
-        if (want != null) {
-            bench.mean();
-            CHECK.result("worth by width " + width + " of " + v, bench, want);
+        Check.lay(bench, 3, 0, 1, 1, 2, 3, 4);
+        Check.lay(bench, 5, 0, 1, 5, 6, 1, 8);
+        bench.row(4, 3, LONGEST);
+        for (int i = 0; i < LONGEST; i++) {
+            CHECK.due("write " + i, bench.write(4, i, Long.MIN_VALUE), 0);
+        }
+        CHECK.due("the SLOT ahead", bench.crowd(3), 1);
+        CHECK.due("its HEAP", bench.count(13), 1);
+        CHECK.due("the SLOT behind", bench.crowd(5), 1);
+        CHECK.due("its HEAP", bench.count(11), 1);
+        bench.mean();
+        CHECK.result("its WORTH", bench, "5/1");
+    }
+
+    private static void writeCutsToWidth() {
+        CHECK.promise(4, "Number i of the SLOT's ROW is v, cut to its WIDTH");
+        for (int width = 0; width < 3; width++) {
+            long all = 1L << (8 << width);
+            worthIs(width, all + 100, 100);
+            worthIs(width, all - 100, -100);
+            worthIs(width, -all + 100, 100);
+            worthIs(width, -all - 100, -100);
+            worthIs(width, 3 * all, 0);
+            worthIsNone(width, all + 101);
+            worthIsNone(width, all - 101);
+            DrawBench bench = new DrawBench();
+            Check.lay(bench, 0, width, all + 1, all, all + 1, all + 3, all + 100);
+            CHECK.due("NAMES, SIZE, HEAP and SHARE of WIDTH " + width, bench.crowd(0), 1);
+            CHECK.due("the HEAP", bench.count(13), 1);
+        }
+        // what the next narrower WIDTH would cut off is kept
+        for (int width = 1; width < 4; width++) {
+            worthIsNone(width, (1L << (4 << width)) + 5);
+            worthIsNone(width, (1L << (4 << width)) - 5);
         }
     }
 
-    private static void crowdRefused() {
+    private static void writeAtTheEndsOfWidths() {
+        CHECK.terms("numbers of 1, 2, 4 or 8 bytes (WIDTH 0 to 3)");
+        for (int width = 0; width < 4; width++) {
+            long highest = width == 3 ? Long.MAX_VALUE : (1L << ((8 << width) - 1)) - 1;
+            worthIsNone(width, highest);
+            worthIsNone(width, -highest - 1);
+            worthIsNone(width, highest + 1);
+            worthIsNone(width, -highest - 2);
+            worthIs(width, 100, 100);
+            worthIs(width, -100, -100);
+            worthIs(width, -1, -1);
+        }
+        for (int width = 0; width < 3; width++) {
+            worthIs(width, Long.MIN_VALUE, 0);
+            worthIs(width, Long.MAX_VALUE, -1);
+        }
+    }
+
+    private static DrawBench worthRow(int width, long v) {
         DrawBench bench = new DrawBench();
-        CHECK.due("crowd(-1)", bench.crowd(-1), -2);
-        CHECK.due("crowd(8)", bench.crowd(8), -2);
-        CHECK.due("crowd(0), nothing", bench.crowd(0), -5);
-        bench.row(0, 3, 0);
-        CHECK.due("a row of none", bench.crowd(0), -6);
-        bench.row(0, 3, 1);
-        CHECK.due("0 names", bench.crowd(0), -4);
-        bench.write(0, 0, 11);
-        CHECK.due("11 names", bench.crowd(0), -4);
-        bench.write(0, 0, -1);
-        CHECK.due("-1 names", bench.crowd(0), -4);
-        bench.write(0, 0, (1L << 32) + 1);
-        CHECK.due("names beyond an int", bench.crowd(0), -4);
-        bench.write(0, 0, 1);
-        CHECK.due("a name without numbers", bench.crowd(0), -6);
-        crowdRefusedInOrder();
+        Check.lay(bench, 5, width, 1, v, 1, 0, 0);
+        return bench;
     }
 
-    /** A number that is amiss comes ahead of the ROW's end, and the end ahead of all behind it. */
-    private static void crowdRefusedInOrder() {
-        for (int length = 1; length <= 9; length++) {
-            for (int bad = 1; bad <= 8; bad++) {
-                DrawBench bench = new DrawBench();
-                bench.row(0, 1, length);
-                bench.write(0, 0, 2);
-                for (int i = 1; i < length; i++) {
-                    bench.write(0, i, i == bad ? -101 : 1);
-                }
-                int want = bad < length ? -4 : length < 9 ? -6 : 2;
-                CHECK.due("crowd of " + length + ", amiss " + bad, bench.crowd(0), want);
-            }
-        }
+    private static void worthIs(int width, long v, int want) {
+        DrawBench bench = worthRow(width, v);
+        CHECK.due("crowd of " + v + " by WIDTH " + width, bench.crowd(5), 1);
+        bench.mean();
+        CHECK.result("mean of " + v + " by WIDTH " + width, bench, want + "/1");
     }
 
-    private static void crowdLimits() {
-        long[][] limits = {{1, 10}, {-100, 100}, {1, 50}, {0, 3}, {0, 100}};
-        for (int i = 1; i < 5; i++) {
-            CHECK.due("lowest " + i, crowdWith(i, limits[i][0]), 1);
-            CHECK.due("below " + i, crowdWith(i, limits[i][0] - 1), -4);
-            CHECK.due("highest " + i, crowdWith(i, limits[i][1]), 1);
-            CHECK.due("above " + i, crowdWith(i, limits[i][1] + 1), -4);
-            CHECK.due("far above " + i, crowdWith(i, (1L << 32) + 1), -4);
-            CHECK.due("far below " + i, crowdWith(i, Long.MIN_VALUE), -4);
-        }
+    private static void worthIsNone(int width, long v) {
+        CHECK.due("crowd of " + v + " by WIDTH " + width, worthRow(width, v).crowd(5), -4);
     }
 
-    private static int crowdWith(int i, long v) {
+    private static void writeRefused() {
+        CHECK.promise(4, "-2: there is no such SLOT");
         DrawBench bench = new DrawBench();
-        bench.row(1, 3, 5);
-        bench.write(1, 0, 1);
-        bench.write(1, 2, 1);
-        bench.write(1, i, v);
-        return bench.crowd(1);
-    }
-
-    private static void crowdReplaces() {
-        DrawBench bench = Check.benchOf(1, 1, 0, 5, 2, 1, 0, 5, 3, 1, 3, 5);
-        CHECK.due("names", bench.count(0), 3);
-        bench.drawn(0, 2);
-        bench.drawn(3, 1);
-        bench.draw(4, 2);
-        bench.spread();
-        String result = Check.resultOf(bench);
-        bench.row(0, 0, 60);
-        bench.write(0, 0, 2);
-        bench.write(0, 2, 1);
-        bench.write(0, 3, 2);
-        bench.write(0, 6, 1);
-        CHECK.due("crowd of a longer row", bench.crowd(0), 2);
-        CHECK.due("names", bench.count(0), 2);
-        CHECK.due("kind", bench.count(1), 0);
-        CHECK.due("n", bench.count(2), 1);
-        int[] heaps = {1, 0, 1, 0};
-        for (int heap = 0; heap < 4; heap++) {
-            CHECK.due("names of a heap", bench.count(10 + heap), heaps[heap]);
-            CHECK.due("drawn", bench.count(20 + heap), 0);
+        bench.row(0, 0, 1);
+        bench.row(LAST_SLOT, 0, LONGEST);
+        for (int slot : Check.outside(0, LAST_SLOT)) {
+            CHECK.due("write to SLOT " + slot, bench.write(slot, 0, 0), -2);
         }
-        CHECK.result("crowd keeps it", bench, result);
-        bench.write(0, 1, 50);
-        bench.tear(0);
-        bench.mean();
-        CHECK.result("a crowd does not hang on its row", bench, "0/1");
-    }
-
-    private static void crowdKeepsWhatItRefuses() {
-        DrawBench bench = Check.benchOf(10, 1, 0, 5, 20, 1, 1, 5);
-        bench.drawn(1, 1);
-        bench.draw(1, 0);
-        bench.mean();
-        bench.row(0, 0, 8);
-        bench.write(0, 0, 2);
-        bench.write(0, 1, 99);
-        bench.write(0, 2, 1);
-        bench.write(0, 6, 1);
-        CHECK.due("too short", bench.crowd(0), -6);
-        bench.write(0, 6, 0);
-        CHECK.due("a size of 0", bench.crowd(0), -4);
-        CHECK.result("the result", bench, "20/1");
-        CHECK.due("names", bench.count(0), 2);
-        CHECK.due("kind", bench.count(1), 1);
-        CHECK.due("drawn", bench.count(21), 1);
-        bench.draw(0, 2);
-        bench.mean();
-        CHECK.result("mean", bench, "30/1");
+        CHECK.due("write to SLOT 0", bench.write(0, 0, 0), 0);
+        CHECK.due("write to SLOT 7", bench.write(LAST_SLOT, 0, 0), 0);
+        CHECK.promise(4, "-5: it has nothing");
+        CHECK.due("write to SLOT 1", bench.write(1, 0, 0), -5);
+        CHECK.due("write to SLOT 6", bench.write(6, 0, 0), -5);
+        CHECK.promise(4, "-6: there is no such number");
+        for (int i : Check.outside(0, 0)) {
+            CHECK.due("number " + i + " of 1", bench.write(0, i, 0), -6);
+        }
+        for (int i : Check.outside(0, LONGEST - 1)) {
+            CHECK.due("number " + i + " of 60", bench.write(LAST_SLOT, i, 0), -6);
+        }
+        CHECK.due("number 59 of 60", bench.write(LAST_SLOT, LONGEST - 1, 0), 0);
+        bench.row(1, 0, 0);
+        CHECK.due("number 0 of none", bench.write(1, 0, 0), -6);
+        CHECK.due("number -1 of none", bench.write(1, -1, 0), -6);
     }
 }
