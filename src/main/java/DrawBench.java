@@ -885,7 +885,7 @@ public final class DrawBench {
     /** How t DRAWN are SHARED OUT. */
     private static final class Sharing {
         final int[] best = new int[HEAPS];
-        /** Times the square of EVEN. */
+        /** Times the square of EVEN; NONE until a way has been tried, as no sum is below 0. */
         long bestCost;
         private final int[] fewest = new int[HEAPS];
         private final int[] most = new int[HEAPS];
@@ -895,7 +895,7 @@ public final class DrawBench {
         /** All ways are tried, those first that win of several with the same sum. */
         void shareOut(Crowd people, int t) {
             measure(people);
-            bestCost = Long.MAX_VALUE;
+            bestCost = NONE;
             for (int a = most[0]; a >= fewest[0]; a--) {
                 for (int b = most[1]; b >= fewest[1]; b--) {
                     for (int c = most[2]; c >= fewest[2]; c--) {
@@ -918,7 +918,7 @@ public final class DrawBench {
 
         private void offer(int a, int b, int c, int d) {
             long cost = cost(0, a) + cost(1, b) + cost(2, c) + cost(3, d);
-            if (cost < bestCost) {
+            if (bestCost == NONE || cost < bestCost) {
                 bestCost = cost;
                 best[0] = a;
                 best[1] = b;

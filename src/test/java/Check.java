@@ -3,6 +3,8 @@ import java.math.BigInteger;
 /** Counts and prints every answer that is not the one that is due, with the sentence that asks for it. */
 final class Check {
     private static final BigInteger BASE = BigInteger.valueOf(1_000_000_000L);
+    private static final Document DOCUMENT = new Document("../shared/DOC.md", "## ");
+    private static final Document LANGUAGE = new Document("../shared/LANGUAGE.md", "(?=\\d+\\. )");
     private String sentence = "";
     private int sentences;
     private int wrong;
@@ -11,19 +13,37 @@ final class Check {
 
     /** The answers from here on are what this sentence of a promise asks for. */
     void promise(int number, String words) {
-        begin("Promise " + number + ": \"" + words + "\"");
+        words("Promise " + number, words);
     }
 
     /** The answers from here on are what this sentence under "Terms" asks for. */
     void terms(String words) {
-        begin("Terms: \"" + words + "\"");
+        words("Terms", words);
     }
 
-    private void begin(String next) {
+    /** The answers from here on are what this sentence of a part of the document asks for. */
+    void words(String part, String words) {
+        begin(part + ": \"" + words + "\"", DOCUMENT.says(part, words));
+    }
+
+    /** The answers from here on are what this sentence of a rule of LANGUAGE.md asks for. */
+    void rule(int number, String words) {
+        language(number + ".", words);
+    }
+
+    /** The answers from here on are what this sentence of a part of LANGUAGE.md asks for. */
+    void language(String part, String words) {
+        begin("LANGUAGE.md, " + part + " \"" + words + "\"", LANGUAGE.says(part, words));
+    }
+
+    private void begin(String next, boolean isThere) {
         closeSentence();
         sentence = next;
         sentences++;
         madeBefore = made;
+        if (!isThere) {
+            tellWrong("does not stand there");
+        }
     }
 
     private void closeSentence() {

@@ -275,7 +275,7 @@ public final class RefusedTest {
     }
 
     private static void lastCall() {
-        CHECK.terms("An object is used for at most 512 calls after it has been made");
+        CHECK.words("What it is", "An object is used for at most 512 calls after it has been made");
         CHECK.due("sets(), call 512", benchAfter(511).sets(), 10);
         CHECK.due("row, call 512", benchAfter(511).row(0, 0, 60), 0);
         CHECK.due("crowd, call 512", benchAfter(511).crowd(7), -5);
