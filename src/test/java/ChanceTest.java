@@ -7,6 +7,7 @@ public final class ChanceTest {
         exact();
         setsByBits();
         allSetsTogether();
+        allNamesAndPairs();
         alike();
         heaps();
         steps();
@@ -92,19 +93,44 @@ public final class ChanceTest {
         }
     }
 
+    private static Oracle oracleOfFour() {
+        Oracle oracle = new Oracle(10, 1, 0, 20, -20, 2, 0, 0, 30, 3, 1, 100, 5, 4, 1, 75);
+        oracle.drawn[0] = 1;
+        oracle.drawn[1] = 1;
+        return oracle;
+    }
+
+    private static DrawBench fourDrawn(int kind) {
+        DrawBench bench = four();
+        bench.drawn(0, 1);
+        bench.drawn(1, 1);
+        bench.draw(kind, 2);
+        return bench;
+    }
+
     private static void allSetsTogether() {
         CHECK.terms("A DRAW tells with which chance each set is drawn");
         for (int kind = 0; kind < 5; kind++) {
-            Oracle oracle = new Oracle(10, 1, 0, 20, -20, 2, 0, 0, 30, 3, 1, 100, 5, 4, 1, 75);
-            oracle.drawn[0] = 1;
-            oracle.drawn[1] = 1;
-            DrawBench bench = four();
-            bench.drawn(0, 1);
-            bench.drawn(1, 1);
-            bench.draw(kind, 2);
-            Ratio[] chance = oracle.chances(kind, 2);
+            DrawBench bench = fourDrawn(kind);
+            Ratio[] chance = oracleOfFour().chances(kind, 2);
             for (int set = 0; set < chance.length; set++) {
                 setIs(bench, set, chance[set].toString());
+            }
+        }
+    }
+
+    private static void allNamesAndPairs() {
+        CHECK.terms("CHANCE of a NAME is that of being drawn, of a pair that of both being drawn.");
+        for (int kind = 0; kind < 5; kind++) {
+            DrawBench bench = fourDrawn(kind);
+            Oracle oracle = oracleOfFour();
+            Ratio[] chance = oracle.chances(kind, 2);
+            for (int i = 0; i < oracle.names; i++) {
+                CHECK.due("chance " + i, bench.chance(i), true);
+                CHECK.result("chance " + i + " of kind " + kind, bench, oracle.both(chance, i, i));
+                for (int j = 0; j < i; j++) {
+                    bothIs(bench, i, j, oracle.both(chance, i, j).toString());
+                }
             }
         }
     }

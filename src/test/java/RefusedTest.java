@@ -203,7 +203,8 @@ public final class RefusedTest {
     }
 
     private static void firstOfTheRefusals() {
-        CHECK.terms("Each call that is refused gives the first of the refusals told of it");
+        CHECK.terms("Each call that is refused gives the first of the refusals told of it, and changes nothing "
+            + "(the RESULT stays).");
         kept("row: no SLOT, n below 0", b -> b.row(8, 0, -1), -2);
         kept("row: no WIDTH, n below 0", b -> b.row(1, 4, -1), -2);
         kept("write: no SLOT, no number", b -> b.write(8, -1, 0), -2);
